@@ -1,0 +1,88 @@
+import java.lang.reflect.Constructor;
+import java.lang.reflect.Field;
+import java.lang.reflect.Method;
+import java.lang.reflect.Modifier;
+import java.util.Set;
+import java.util.TreeSet;
+
+/** Tests that the class has the document's face, and nothing else that can be seen. */
+public final class FaceTest {
+    private static final Set<String> FACE = Set.of(
+            "int setShare(int, int)",
+            "boolean setSwitch(int, boolean)",
+            "double setPrice(int)",
+            "boolean tell(int, int)",
+            "boolean close(int)",
+            "int closed()",
+            "double replace(int, int, int)",
+            "double use(int, int)",
+            "double fromSun(int, int)",
+            "double fromBattery(int, int)",
+            "double bought(int, int)",
+            "double sold(int)",
+            "double battery()",
+            "int turn()",
+            "int sheds(int)",
+            "double bill(int)");
+
+    private static final Checks checks = new Checks("FaceTest");
+
+    public static void main(String[] args) {
+        theClassIsFinal();
+        theMethodsAreThoseOfTheFace();
+        nothingElseIsSeen();
+        checks.end();
+    }
+
+    private static void theClassIsFinal() {
+        int modifiers = GridCommons.class.getModifiers();
+        checks.holds("public", Modifier.isPublic(modifiers));
+        checks.holds("final", Modifier.isFinal(modifiers));
+        Constructor<?>[] constructors = GridCommons.class.getDeclaredConstructors();
+        checks.same("constructors", constructors.length, 1);
+        checks.same("its arguments", constructors[0].getParameterCount(), 0);
+        checks.holds("public constructor", Modifier.isPublic(constructors[0].getModifiers()));
+    }
+
+    private static void theMethodsAreThoseOfTheFace() {
+        Set<String> seen = new TreeSet<>();
+        for (Method method : GridCommons.class.getDeclaredMethods()) {
+            if (!Modifier.isPrivate(method.getModifiers())) {
+                checks.holds(method + " is public", Modifier.isPublic(method.getModifiers()));
+                seen.add(text(method));
+            }
+        }
+        checks.holds("methods are those of the face: " + seen, seen.equals(FACE));
+    }
+
+    private static void nothingElseIsSeen() {
+        for (Method method : GridCommons.class.getDeclaredMethods()) {
+            boolean isPrivate = Modifier.isPrivate(method.getModifiers());
+            checks.holds(method + " has a name of its own", !isPrivate || !isNameOfTheFace(method.getName()));
+        }
+        for (Field field : GridCommons.class.getDeclaredFields()) {
+            int modifiers = field.getModifiers();
+            checks.holds(field + " is private", Modifier.isPrivate(modifiers));
+            checks.holds(field + " is final if static", !Modifier.isStatic(modifiers) || Modifier.isFinal(modifiers));
+        }
+    }
+
+    private static boolean isNameOfTheFace(String name) {
+        for (String signature : FACE) {
+            if (signature.contains(" " + name + "(")) {
+                return true;
+            }
+        }
+        return false;
+    }
+
+    private static String text(Method method) {
+        StringBuilder text = new StringBuilder(method.getReturnType() + " " + method.getName() + "(");
+        String comma = "";
+        for (Class<?> type : method.getParameterTypes()) {
+            text.append(comma).append(type);
+            comma = ", ";
+        }
+        return text.append(")").toString();
+    }
+}

@@ -253,7 +253,7 @@ public final class GridCommons {
         needs[owner] -= units;
     }
 
-    /** Lets what is left over stand as it is, for the battery gives only if nothing was. */
+    // leftOver is not counted down here: whether the battery gives hangs on what was left over before this.
     private void storeOrSell(int quarter) {
         double room = CAPACITY - stored;
         if (leftOver < room) {

@@ -44,6 +44,16 @@ final class Checks {
         }
     }
 
+    void passes(String what, Runnable call) {
+        made++;
+        try {
+            call.run();
+        } catch (RuntimeException e) {
+            wrong++;
+            System.out.println(program + ": " + what + " threw " + e.getClass().getSimpleName() + ", due is none");
+        }
+    }
+
     /** An exception that nobody expects is one thing wrong, and the tests behind it still run. */
     void run(String name, Runnable test) {
         try {

@@ -8,22 +8,23 @@ import java.util.TreeSet;
 /** Tests that the class has the document's face, and nothing else that can be seen. */
 public final class FaceTest {
     private static final Set<String> FACE = Set.of(
-            "int setShare(int, int)",
-            "boolean setSwitch(int, boolean)",
-            "double setPrice(int)",
-            "boolean tell(int, int)",
-            "boolean close(int)",
+            "int setShare(int, int) throws IllegalArgumentException, IllegalStateException",
+            "boolean setSwitch(int, boolean) throws IllegalArgumentException",
+            "double setPrice(int) throws IllegalArgumentException",
+            "boolean tell(int, int) throws IllegalArgumentException",
+            "boolean close(int) throws IllegalArgumentException, IllegalStateException",
             "int closed()",
-            "double replace(int, int, int)",
-            "double use(int, int)",
-            "double fromSun(int, int)",
-            "double fromBattery(int, int)",
-            "double bought(int, int)",
-            "double sold(int)",
+            "double replace(int, int, int) throws IllegalArgumentException"
+                    + ", IndexOutOfBoundsException, IllegalStateException",
+            "double use(int, int) throws IllegalArgumentException, IndexOutOfBoundsException",
+            "double fromSun(int, int) throws IllegalArgumentException, IndexOutOfBoundsException",
+            "double fromBattery(int, int) throws IllegalArgumentException, IndexOutOfBoundsException",
+            "double bought(int, int) throws IllegalArgumentException, IndexOutOfBoundsException",
+            "double sold(int) throws IndexOutOfBoundsException",
             "double battery()",
             "int turn()",
-            "int sheds(int)",
-            "double bill(int)");
+            "int sheds(int) throws IllegalArgumentException",
+            "double bill(int) throws IllegalArgumentException");
 
     private static final Checks checks = new Checks("FaceTest");
 
@@ -83,6 +84,12 @@ public final class FaceTest {
             text.append(comma).append(type);
             comma = ", ";
         }
-        return text.append(")").toString();
+        text.append(")");
+        comma = " throws ";
+        for (Class<?> type : method.getExceptionTypes()) {
+            text.append(comma).append(type.getSimpleName());
+            comma = ", ";
+        }
+        return text.toString();
     }
 }

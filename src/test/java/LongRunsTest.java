@@ -1,12 +1,15 @@
 import java.util.Random;
+import java.util.function.IntToDoubleFunction;
 
 /**
  * Long runs of calls of every kind, with wrong arguments among them. Beside each run the test keeps what was
- * told, and weighs every closed quarter: what the sun gave must be somewhere, and so must what each owner used.
+ * told, and weighs closed quarters: what the sun gave must be somewhere, and so must what each owner used. A weighed
+ * quarter takes many of the 512 calls, so some runs weigh each quarter and others one in three or in twelve.
  */
 public final class LongRunsTest {
-    private static final int RUNS = 400;
+    private static final int RUNS = 2000;
     private static final int CALLS = 512;
+    private static final int CALLS_OF_THE_DEAREST_STEP = 40;
     private static final int UNKNOWN = -1;
 
     private static final Checks checks = new Checks("LongRunsTest");
@@ -21,13 +24,16 @@ public final class LongRunsTest {
     private final double[][] used = new double[60][5];
     private final double[][] guesses = new double[60][5];
     private final double[] prices = new double[60];
-    private final double[] bills = new double[5];
+    private final int[] sheds = new int[5];
+    private final int weighEvery;
     private double price = 0.5;
     private int closed = 0;
+    private int calls = 0;
 
     private LongRunsTest(int seed) {
         random = new Random(seed);
         wrongArguments = seed % 2 == 0;
+        weighEvery = new int[] {1, 3, 12}[seed % 3];
     }
 
     public static void main(String[] args) {
@@ -38,13 +44,20 @@ public final class LongRunsTest {
         checks.end();
     }
 
-    private void run() {
-        for (int call = 0; call < CALLS; call++) {
-            call(random.nextInt(16));
-        }
+    // Nothing is promised behind the 512th call, so each call is counted.
+    private GridCommons grid() {
+        calls++;
+        return grid;
     }
 
-    private void call(int kind) {
+    private void run() {
+        while (calls < CALLS - CALLS_OF_THE_DEAREST_STEP) {
+            step(random.nextInt(16));
+        }
+        checks.holds("at most 512 calls", calls <= CALLS);
+    }
+
+    private void step(int kind) {
         switch (kind) {
             case 0 -> setShare(number(0, 4), number(0, 4));
             case 1 -> setSwitch(number(0, 4), random.nextInt(3) > 0);
@@ -54,7 +67,9 @@ public final class LongRunsTest {
             case 7 -> read(number(0, 4), number(0, Math.max(0, closed - 1)));
             default -> tell(number(0, 4), number(0, 50));
         }
-        checks.same("closed", grid.closed(), closed);
+        if (random.nextInt(8) == 0) {
+            checks.same("closed", grid().closed(), closed);
+        }
     }
 
     private int number(int least, int most) {
@@ -71,7 +86,7 @@ public final class LongRunsTest {
 
     private void setShare(int owner, int share) {
         if (!within(owner, 0, 4) || !within(share, 0, 4)) {
-            checks.fails("setShare", IllegalArgumentException.class, () -> grid.setShare(owner, share));
+            checks.fails("setShare", IllegalArgumentException.class, () -> grid().setShare(owner, share));
             return;
         }
         int others = 0;
@@ -79,47 +94,47 @@ public final class LongRunsTest {
             others += other == owner ? 0 : shares[other];
         }
         if (others + share > 4) {
-            checks.fails("setShare", IllegalStateException.class, () -> grid.setShare(owner, share));
+            checks.fails("setShare", IllegalStateException.class, () -> grid().setShare(owner, share));
             return;
         }
-        checks.same("setShare", grid.setShare(owner, share), shares[owner]);
+        checks.same("setShare", grid().setShare(owner, share), shares[owner]);
         shares[owner] = share;
     }
 
     private void setSwitch(int owner, boolean can) {
         if (!within(owner, 0, 4)) {
-            checks.fails("setSwitch", IllegalArgumentException.class, () -> grid.setSwitch(owner, can));
+            checks.fails("setSwitch", IllegalArgumentException.class, () -> grid().setSwitch(owner, can));
             return;
         }
-        checks.holds("setSwitch", grid.setSwitch(owner, can) == switches[owner]);
+        checks.holds("setSwitch", grid().setSwitch(owner, can) == switches[owner]);
         switches[owner] = can;
     }
 
     private void setPrice(int fourths) {
         if (!within(fourths, 1, 4)) {
-            checks.fails("setPrice", IllegalArgumentException.class, () -> grid.setPrice(fourths));
+            checks.fails("setPrice", IllegalArgumentException.class, () -> grid().setPrice(fourths));
             return;
         }
         price = fourths * 0.25;
-        checks.same("setPrice", grid.setPrice(fourths), price);
+        checks.same("setPrice", grid().setPrice(fourths), price);
     }
 
     private void tell(int owner, int use) {
         if (!within(owner, 0, 4) || !within(use, 0, 50)) {
-            checks.fails("tell", IllegalArgumentException.class, () -> grid.tell(owner, use));
+            checks.fails("tell", IllegalArgumentException.class, () -> grid().tell(owner, use));
             return;
         }
-        checks.holds("tell", grid.tell(owner, use) == (told[owner] != UNKNOWN));
+        checks.holds("tell", grid().tell(owner, use) == (told[owner] != UNKNOWN));
         told[owner] = use;
     }
 
     private void close(int sun) {
         if (!within(sun, 0, 100)) {
-            checks.fails("close", IllegalArgumentException.class, () -> grid.close(sun));
+            checks.fails("close", IllegalArgumentException.class, () -> grid().close(sun));
             return;
         }
         if (closed == 60) {
-            checks.fails("close", IllegalStateException.class, () -> grid.close(sun));
+            checks.fails("close", IllegalStateException.class, () -> grid().close(sun));
             return;
         }
         for (int owner = 0; owner < 5; owner++) {
@@ -131,12 +146,12 @@ public final class LongRunsTest {
             told[owner] = UNKNOWN;
         }
         prices[closed] = price;
-        int[] shedBefore = sheds();
-        double heldBefore = grid.battery();
-        boolean overloaded = grid.close(sun);
-        weighLine(shedBefore, overloaded);
-        weighSun(sun, heldBefore);
-        weighOwners();
+        boolean overloadIsDue = shed();
+        if (closed % weighEvery == 0) {
+            closeAndWeigh(sun, overloadIsDue);
+        } else {
+            checks.holds("overloaded", grid().close(sun) == overloadIsDue);
+        }
         closed++;
     }
 
@@ -153,104 +168,120 @@ public final class LongRunsTest {
         return last == UNKNOWN ? 0.0 : last;
     }
 
-    private int[] sheds() {
-        int[] sheds = new int[5];
-        for (int owner = 0; owner < 5; owner++) {
-            sheds[owner] = grid.sheds(owner);
-        }
-        return sheds;
-    }
-
     /** Who is shed stands in a row by times shed and then by number; a beginning of the row must be shed. */
-    private void weighLine(int[] before, boolean overloaded) {
+    private boolean shed() {
         double line = 0.0;
         for (double use : used[closed]) {
             line += use;
         }
-        int[] due = before.clone();
-        boolean[] isShed = new boolean[5];
+        int[] before = sheds.clone();
         for (int rank = 0; rank < 60 * 5 && line > 100.0; rank++) {
-            int times = rank / 5;
             int owner = rank % 5;
-            if (before[owner] == times && !isShed[owner] && switches[owner] && used[closed][owner] > 0.0) {
-                isShed[owner] = true;
-                due[owner]++;
+            if (before[owner] == rank / 5 && switches[owner] && used[closed][owner] > 0.0) {
+                sheds[owner]++;
                 line -= used[closed][owner];
                 used[closed][owner] = 0.0;
             }
         }
-        checks.holds("overloaded", overloaded == (line > 100.0));
-        for (int owner = 0; owner < 5; owner++) {
-            checks.same("sheds", grid.sheds(owner), due[owner]);
-        }
+        return line > 100.0;
     }
 
-    private void weighSun(int sun, double heldBefore) {
-        double fromSun = 0.0;
-        double fromBattery = 0.0;
+    private void closeAndWeigh(int sun, boolean overloadIsDue) {
+        double[] billsBefore = ofOwners(owner -> grid().bill(owner));
+        double heldBefore = grid().battery();
+        int turnBefore = grid().turn();
+        checks.holds("overloaded", grid().close(sun) == overloadIsDue);
+        double[] fromSun = ofOwners(owner -> grid().fromSun(owner, closed));
+        double[] fromBattery = ofOwners(owner -> grid().fromBattery(owner, closed));
+        double[] bought = ofOwners(owner -> grid().bought(owner, closed));
+        double sold = grid().sold(closed);
+        double held = grid().battery();
+        weighSun(sun, fromSun, held - heldBefore + sum(fromBattery) + sold);
+        weighBattery(held, sold, turnBefore, fromBattery);
         for (int owner = 0; owner < 5; owner++) {
-            fromSun += grid.fromSun(owner, closed);
-            fromBattery += grid.fromBattery(owner, closed);
-            double byContract = Math.min(sun * shares[owner] / 4.0, used[closed][owner]);
-            checks.holds("at least by contract", grid.fromSun(owner, closed) >= byContract);
-        }
-        double held = grid.battery();
-        checks.near("the sun", fromSun + held - heldBefore + fromBattery + grid.sold(closed), sun);
-        checks.holds("the battery holds 0 to 40", held >= 0.0 && held <= 40.0);
-        checks.holds("sold if the battery is full", grid.sold(closed) == 0.0 || held == 40.0);
-        checks.holds("a turn", within(grid.turn(), 0, 4));
-    }
-
-    private void weighOwners() {
-        for (int owner = 0; owner < 5; owner++) {
-            double got = grid.fromSun(owner, closed) + grid.fromBattery(owner, closed) + grid.bought(owner, closed);
+            checks.same("sheds", grid().sheds(owner), sheds[owner]);
+            double got = fromSun[owner] + fromBattery[owner] + bought[owner];
             checks.near("what an owner used", got, used[closed][owner]);
-            checks.holds("bought only of an empty battery",
-                    grid.bought(owner, closed) == 0.0 || grid.battery() == 0.0);
-            bills[owner] += grid.bought(owner, closed) * price - grid.sold(closed) * price / 10.0;
-            checks.near("bill", grid.bill(owner), bills[owner]);
+            checks.holds("bought only of an empty battery", bought[owner] == 0.0 || held == 0.0);
+            double due = billsBefore[owner] + bought[owner] * price - sold * price / 10.0;
+            checks.near("bill", grid().bill(owner), due);
         }
+    }
+
+    private void weighSun(int sun, double[] fromSun, double notUsed) {
+        for (int owner = 0; owner < 5; owner++) {
+            double byContract = Math.min(sun * shares[owner] / 4.0, used[closed][owner]);
+            checks.holds("at least by contract", fromSun[owner] >= byContract);
+        }
+        checks.near("the sun", sum(fromSun) + notUsed, sun);
+    }
+
+    private void weighBattery(double held, double sold, int turnBefore, double[] fromBattery) {
+        checks.holds("the battery holds 0 to 40", held >= 0.0 && held <= 40.0);
+        checks.holds("sold if the battery is full", sold == 0.0 || held == 40.0);
+        int turn = turnBefore;
+        for (int round = 0; round < 5; round++) {
+            int owner = (turnBefore + round) % 5;
+            turn = fromBattery[owner] > 0.0 ? (owner + 1) % 5 : turn;
+        }
+        checks.same("turn", grid().turn(), turn);
+    }
+
+    private static double[] ofOwners(IntToDoubleFunction reading) {
+        double[] readings = new double[5];
+        for (int owner = 0; owner < 5; owner++) {
+            readings[owner] = reading.applyAsDouble(owner);
+        }
+        return readings;
+    }
+
+    private static double sum(double[] readings) {
+        double sum = 0.0;
+        for (double reading : readings) {
+            sum += reading;
+        }
+        return sum;
     }
 
     private void replace(int owner, int quarter, int use) {
         if (!within(owner, 0, 4) || !within(use, 0, 50)) {
-            checks.fails("replace", IllegalArgumentException.class, () -> grid.replace(owner, quarter, use));
+            checks.fails("replace", IllegalArgumentException.class, () -> grid().replace(owner, quarter, use));
             return;
         }
         if (!within(quarter, 0, closed - 1)) {
-            checks.fails("replace", IndexOutOfBoundsException.class, () -> grid.replace(owner, quarter, use));
+            checks.fails("replace", IndexOutOfBoundsException.class, () -> grid().replace(owner, quarter, use));
             return;
         }
         if (known[quarter][owner] != UNKNOWN) {
-            checks.fails("replace", IllegalStateException.class, () -> grid.replace(owner, quarter, use));
+            checks.fails("replace", IllegalStateException.class, () -> grid().replace(owner, quarter, use));
             return;
         }
         double change = (use - used[quarter][owner]) * prices[quarter];
-        checks.same("replace", grid.replace(owner, quarter, use), change);
+        double before = grid().bill(owner);
+        checks.same("replace", grid().replace(owner, quarter, use), change);
         known[quarter][owner] = use;
-        bills[owner] += change;
-        checks.near("bill", grid.bill(owner), bills[owner]);
+        checks.same("bill", grid().bill(owner), before + change);
     }
 
     private void read(int owner, int quarter) {
         if (!within(owner, 0, 4)) {
-            checks.fails("use", IllegalArgumentException.class, () -> grid.use(owner, quarter));
-            checks.fails("fromSun", IllegalArgumentException.class, () -> grid.fromSun(owner, quarter));
-            checks.fails("fromBattery", IllegalArgumentException.class, () -> grid.fromBattery(owner, quarter));
-            checks.fails("bought", IllegalArgumentException.class, () -> grid.bought(owner, quarter));
-            checks.fails("sheds", IllegalArgumentException.class, () -> grid.sheds(owner));
-            checks.fails("bill", IllegalArgumentException.class, () -> grid.bill(owner));
+            checks.fails("use", IllegalArgumentException.class, () -> grid().use(owner, quarter));
+            checks.fails("fromSun", IllegalArgumentException.class, () -> grid().fromSun(owner, quarter));
+            checks.fails("fromBattery", IllegalArgumentException.class, () -> grid().fromBattery(owner, quarter));
+            checks.fails("bought", IllegalArgumentException.class, () -> grid().bought(owner, quarter));
+            checks.fails("sheds", IllegalArgumentException.class, () -> grid().sheds(owner));
+            checks.fails("bill", IllegalArgumentException.class, () -> grid().bill(owner));
             return;
         }
         if (!within(quarter, 0, closed - 1)) {
-            checks.fails("use", IndexOutOfBoundsException.class, () -> grid.use(owner, quarter));
-            checks.fails("fromSun", IndexOutOfBoundsException.class, () -> grid.fromSun(owner, quarter));
-            checks.fails("fromBattery", IndexOutOfBoundsException.class, () -> grid.fromBattery(owner, quarter));
-            checks.fails("bought", IndexOutOfBoundsException.class, () -> grid.bought(owner, quarter));
-            checks.fails("sold", IndexOutOfBoundsException.class, () -> grid.sold(quarter));
+            checks.fails("use", IndexOutOfBoundsException.class, () -> grid().use(owner, quarter));
+            checks.fails("fromSun", IndexOutOfBoundsException.class, () -> grid().fromSun(owner, quarter));
+            checks.fails("fromBattery", IndexOutOfBoundsException.class, () -> grid().fromBattery(owner, quarter));
+            checks.fails("bought", IndexOutOfBoundsException.class, () -> grid().bought(owner, quarter));
+            checks.fails("sold", IndexOutOfBoundsException.class, () -> grid().sold(quarter));
             return;
         }
         int use = known[quarter][owner];
-        checks.same("use", grid.use(owner, quarter), use == UNKNOWN ? guesses[quarter][owner] : use);
+        checks.same("use", grid().use(owner, quarter), use == UNKNOWN ? guesses[quarter][owner] : use);
     }
 }

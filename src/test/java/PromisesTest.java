@@ -7,6 +7,7 @@ public final class PromisesTest {
     private static final int[] WRONG_USES = {-1, 51, Integer.MIN_VALUE, Integer.MAX_VALUE};
 
     private static final Checks checks = new Checks("PromisesTest");
+    private static final Readings read = new Readings(checks);
 
     public static void main(String[] args) {
         checks.run("promise 1", PromisesTest::aNewObject);
@@ -45,61 +46,6 @@ public final class PromisesTest {
         checks.end();
     }
 
-    // Helpers.
-
-    private static void tellAll(GridCommons grid, int... uses) {
-        for (int owner = 0; owner < 5; owner++) {
-            grid.tell(owner, uses[owner]);
-        }
-    }
-
-    private static boolean quarter(GridCommons grid, int sun, int... uses) {
-        tellAll(grid, uses);
-        return grid.close(sun);
-    }
-
-    private static GridCommons withFullBattery() {
-        GridCommons grid = new GridCommons();
-        quarter(grid, 40, 0, 0, 0, 0, 0);
-        return grid;
-    }
-
-    private static void fromSunIs(GridCommons grid, int quarter, double... due) {
-        for (int owner = 0; owner < 5; owner++) {
-            checks.same("fromSun(" + owner + ", " + quarter + ")", grid.fromSun(owner, quarter), due[owner]);
-        }
-    }
-
-    private static void fromBatteryIs(GridCommons grid, int quarter, double... due) {
-        for (int owner = 0; owner < 5; owner++) {
-            checks.same("fromBattery(" + owner + ", " + quarter + ")", grid.fromBattery(owner, quarter), due[owner]);
-        }
-    }
-
-    private static void boughtIs(GridCommons grid, int quarter, double... due) {
-        for (int owner = 0; owner < 5; owner++) {
-            checks.same("bought(" + owner + ", " + quarter + ")", grid.bought(owner, quarter), due[owner]);
-        }
-    }
-
-    private static void useIs(GridCommons grid, int quarter, double... due) {
-        for (int owner = 0; owner < 5; owner++) {
-            checks.same("use(" + owner + ", " + quarter + ")", grid.use(owner, quarter), due[owner]);
-        }
-    }
-
-    private static void shedsIs(GridCommons grid, int... due) {
-        for (int owner = 0; owner < 5; owner++) {
-            checks.same("sheds(" + owner + ")", grid.sheds(owner), due[owner]);
-        }
-    }
-
-    private static void billIs(GridCommons grid, double... due) {
-        for (int owner = 0; owner < 5; owner++) {
-            checks.same("bill(" + owner + ")", grid.bill(owner), due[owner]);
-        }
-    }
-
     // Promise 1.
 
     private static void aNewObject() {
@@ -107,15 +53,15 @@ public final class PromisesTest {
         checks.same("battery", grid.battery(), 0.0);
         checks.same("turn", grid.turn(), 0);
         checks.same("closed", grid.closed(), 0);
-        shedsIs(grid, 0, 0, 0, 0, 0);
-        billIs(grid, 0, 0, 0, 0, 0);
+        read.shedsIs(grid, 0, 0, 0, 0, 0);
+        read.billIs(grid, 0, 0, 0, 0, 0);
         for (int owner = 0; owner < 5; owner++) {
             checks.same("share at first", grid.setShare(owner, 0), 0);
             checks.holds("can be shed at first", grid.setSwitch(owner, true));
             checks.holds("nothing told at first", !grid.tell(owner, 2));
         }
         grid.close(0);
-        billIs(grid, 1, 1, 1, 1, 1);
+        read.billIs(grid, 1, 1, 1, 1, 1);
         checks.same("another object is on its own", new GridCommons().closed(), 0);
     }
 
@@ -167,9 +113,9 @@ public final class PromisesTest {
     private static void aSwitchThatCannotIsNotShed() {
         GridCommons grid = new GridCommons();
         grid.setSwitch(0, false);
-        checks.holds("shedding 1 is enough", !quarter(grid, 0, 50, 50, 50, 0, 0));
-        shedsIs(grid, 0, 1, 0, 0, 0);
-        boughtIs(grid, 0, 50, 0, 50, 0, 0);
+        checks.holds("shedding 1 is enough", !Readings.quarter(grid, 0, 50, 50, 50, 0, 0));
+        read.shedsIs(grid, 0, 1, 0, 0, 0);
+        read.boughtIs(grid, 0, 50, 0, 50, 0, 0);
     }
 
     // Promise 4.
@@ -183,8 +129,8 @@ public final class PromisesTest {
         for (int fourths : new int[] {0, 5, -1, Integer.MIN_VALUE, Integer.MAX_VALUE}) {
             checks.fails("setPrice(" + fourths + ")", ARGUMENT, () -> grid.setPrice(fourths));
         }
-        quarter(grid, 0, 8, 0, 0, 0, 0);
-        billIs(grid, 8, 0, 0, 0, 0);
+        Readings.quarter(grid, 0, 8, 0, 0, 0, 0);
+        read.billIs(grid, 8, 0, 0, 0, 0);
     }
 
     private static void thePriceOfAQuarterIsThePriceAtItsClose() {
@@ -209,7 +155,7 @@ public final class PromisesTest {
         checks.holds("and again", grid.tell(2, 7));
         checks.holds("another owner", !grid.tell(3, 9));
         grid.close(0);
-        useIs(grid, 0, 0, 0, 7, 9, 0);
+        read.useIs(grid, 0, 0, 0, 7, 9, 0);
         checks.holds("in the next quarter", !grid.tell(2, 1));
         checks.same("the closed quarter stays", grid.use(2, 0), 7);
     }
@@ -253,7 +199,7 @@ public final class PromisesTest {
     private static void gapsAreFilledWithGuesses() {
         GridCommons grid = new GridCommons();
         grid.close(0);
-        useIs(grid, 0, 0, 0, 0, 0, 0);
+        read.useIs(grid, 0, 0, 0, 0, 0, 0);
         grid.tell(0, 9);
         grid.close(0);
         grid.close(0);
@@ -274,7 +220,7 @@ public final class PromisesTest {
 
     private static void guessesLookAtTheLatestQuarters() {
         GridCommons grid = new GridCommons();
-        quarter(grid, 0, 10, 0, 0, 0, 0);
+        Readings.quarter(grid, 0, 10, 0, 0, 0, 0);
         grid.close(0);
         grid.tell(0, 20);
         grid.close(0);
@@ -302,36 +248,36 @@ public final class PromisesTest {
 
     private static void ownersAreShedInAJustTurn() {
         GridCommons grid = new GridCommons();
-        checks.holds("100 are carried", !quarter(grid, 0, 20, 20, 20, 20, 20));
-        shedsIs(grid, 0, 0, 0, 0, 0);
-        checks.holds("150, and 0 is shed", !quarter(grid, 0, 50, 50, 50, 0, 0));
-        shedsIs(grid, 1, 0, 0, 0, 0);
-        boughtIs(grid, 1, 0, 50, 50, 0, 0);
-        useIs(grid, 1, 50, 50, 50, 0, 0);
-        checks.holds("150, and 1 is shed", !quarter(grid, 0, 50, 50, 50, 0, 0));
-        shedsIs(grid, 1, 1, 0, 0, 0);
-        checks.holds("250, and 2, 3 and 4 are shed", !quarter(grid, 0, 50, 50, 50, 50, 50));
-        shedsIs(grid, 1, 1, 1, 1, 1);
-        boughtIs(grid, 3, 50, 50, 0, 0, 0);
-        checks.holds("101, and 0 is shed", !quarter(grid, 0, 1, 20, 20, 20, 40));
-        shedsIs(grid, 2, 1, 1, 1, 1);
+        checks.holds("100 are carried", !Readings.quarter(grid, 0, 20, 20, 20, 20, 20));
+        read.shedsIs(grid, 0, 0, 0, 0, 0);
+        checks.holds("150, and 0 is shed", !Readings.quarter(grid, 0, 50, 50, 50, 0, 0));
+        read.shedsIs(grid, 1, 0, 0, 0, 0);
+        read.boughtIs(grid, 1, 0, 50, 50, 0, 0);
+        read.useIs(grid, 1, 50, 50, 50, 0, 0);
+        checks.holds("150, and 1 is shed", !Readings.quarter(grid, 0, 50, 50, 50, 0, 0));
+        read.shedsIs(grid, 1, 1, 0, 0, 0);
+        checks.holds("250, and 2, 3 and 4 are shed", !Readings.quarter(grid, 0, 50, 50, 50, 50, 50));
+        read.shedsIs(grid, 1, 1, 1, 1, 1);
+        read.boughtIs(grid, 3, 50, 50, 0, 0, 0);
+        checks.holds("101, and 0 is shed", !Readings.quarter(grid, 0, 1, 20, 20, 20, 40));
+        read.shedsIs(grid, 2, 1, 1, 1, 1);
         checks.same("a shed owner pays nothing", grid.bought(0, 4), 0.0);
     }
 
     private static void onlyThoseWhoUseAreShed() {
         GridCommons grid = new GridCommons();
-        quarter(grid, 0, 0, 1, 50, 50, 0);
-        shedsIs(grid, 0, 1, 0, 0, 0);
+        Readings.quarter(grid, 0, 0, 1, 50, 50, 0);
+        read.shedsIs(grid, 0, 1, 0, 0, 0);
 
         GridCommons guessed = new GridCommons();
-        quarter(guessed, 0, 50, 50, 0, 0, 0);
+        Readings.quarter(guessed, 0, 50, 50, 0, 0, 0);
         guessed.tell(2, 1);
         guessed.close(0);
-        shedsIs(guessed, 1, 0, 0, 0, 0);
-        useIs(guessed, 1, 50, 50, 1, 0, 0);
+        read.shedsIs(guessed, 1, 0, 0, 0, 0);
+        read.useIs(guessed, 1, 50, 50, 1, 0, 0);
         guessed.close(0);
         checks.same("a use that was shed is known", guessed.use(2, 2), 0.5);
-        shedsIs(guessed, 1, 1, 0, 0, 0);
+        read.shedsIs(guessed, 1, 1, 0, 0, 0);
     }
 
     private static void theLineIsOverloadedIfNobodyIsLeft() {
@@ -339,16 +285,16 @@ public final class PromisesTest {
         for (int owner = 0; owner < 3; owner++) {
             grid.setSwitch(owner, false);
         }
-        checks.holds("overloaded", quarter(grid, 0, 50, 50, 1, 7, 0));
-        shedsIs(grid, 0, 0, 0, 1, 0);
-        boughtIs(grid, 0, 50, 50, 1, 0, 0);
-        checks.holds("not overloaded at 100", !quarter(grid, 0, 50, 50, 0, 7, 7));
-        shedsIs(grid, 0, 0, 0, 2, 1);
+        checks.holds("overloaded", Readings.quarter(grid, 0, 50, 50, 1, 7, 0));
+        read.shedsIs(grid, 0, 0, 0, 1, 0);
+        read.boughtIs(grid, 0, 50, 50, 1, 0, 0);
+        checks.holds("not overloaded at 100", !Readings.quarter(grid, 0, 50, 50, 0, 7, 7));
+        read.shedsIs(grid, 0, 0, 0, 2, 1);
         grid.setSwitch(3, false);
         grid.setSwitch(4, false);
-        checks.holds("none can be shed", quarter(grid, 100, 50, 50, 50, 50, 50));
-        shedsIs(grid, 0, 0, 0, 2, 1);
-        fromSunIs(grid, 2, 20, 20, 20, 20, 20);
+        checks.holds("none can be shed", Readings.quarter(grid, 100, 50, 50, 50, 50, 50));
+        read.shedsIs(grid, 0, 0, 0, 2, 1);
+        read.fromSunIs(grid, 2, 20, 20, 20, 20, 20);
     }
 
     // Promise 7.
@@ -367,27 +313,27 @@ public final class PromisesTest {
     private static void replaceChangesTheBill() {
         GridCommons grid = new GridCommons();
         grid.setPrice(3);
-        quarter(grid, 0, 10, 10, 0, 0, 0);
+        Readings.quarter(grid, 0, 10, 10, 0, 0, 0);
         grid.close(0);
-        billIs(grid, 15, 15, 0, 0, 0);
+        read.billIs(grid, 15, 15, 0, 0, 0);
         grid.setPrice(4);
         checks.same("more", grid.replace(0, 1, 14), 3.0);
         checks.same("less", grid.replace(1, 1, 0), -7.5);
         checks.same("as guessed", grid.replace(2, 1, 0), 0.0);
-        billIs(grid, 18, 7.5, 0, 0, 0);
+        read.billIs(grid, 18, 7.5, 0, 0, 0);
     }
 
     private static void replaceLeavesTheQuarterAsItWas() {
-        GridCommons grid = withFullBattery();
-        quarter(grid, 4, 10, 50, 0, 0, 0);
+        GridCommons grid = Readings.withFullBattery();
+        Readings.quarter(grid, 4, 10, 50, 0, 0, 0);
         grid.close(6);
-        fromSunIs(grid, 2, 1, 5, 0, 0, 0);
+        read.fromSunIs(grid, 2, 1, 5, 0, 0, 0);
         double bought = grid.bought(1, 2);
         double held = grid.battery();
         int turn = grid.turn();
         checks.same("the bill of the whole use", grid.replace(1, 2, 50), 12.5);
         checks.same("bought stays", grid.bought(1, 2), bought);
-        fromSunIs(grid, 2, 1, 5, 0, 0, 0);
+        read.fromSunIs(grid, 2, 1, 5, 0, 0, 0);
         checks.same("sold stays", grid.sold(2), 0.0);
         checks.same("battery stays", grid.battery(), held);
         checks.same("turn stays", grid.turn(), turn);
@@ -397,12 +343,12 @@ public final class PromisesTest {
 
     private static void replaceOfAShedGapCountsTheWholeUse() {
         GridCommons grid = new GridCommons();
-        quarter(grid, 0, 40, 30, 30, 0, 0);
+        Readings.quarter(grid, 0, 40, 30, 30, 0, 0);
         grid.setPrice(1);
         grid.tell(1, 50);
         grid.tell(2, 50);
         grid.close(0);
-        shedsIs(grid, 1, 0, 0, 0, 0);
+        read.shedsIs(grid, 1, 0, 0, 0, 0);
         checks.same("the guess of the shed owner", grid.use(0, 1), 40.0);
         checks.same("the use of 36 less 0.0", grid.replace(0, 1, 36), 9.0);
         checks.same("bill", grid.bill(0), 29.0);
@@ -433,20 +379,20 @@ public final class PromisesTest {
         checks.fails("replaced", STATE, () -> grid.replace(1, 0, 49));
         checks.same("the use stays", grid.use(1, 0), 50.0);
         checks.same("told stays", grid.use(0, 0), 5.0);
-        billIs(grid, 2.5, 25, 0, 0, 0);
+        read.billIs(grid, 2.5, 25, 0, 0, 0);
     }
 
     // Promise 9.
 
     private static void useIsWhatIsKnownNow() {
         GridCommons grid = new GridCommons();
-        quarter(grid, 0, 50, 50, 49, 0, 3);
-        useIs(grid, 0, 50, 50, 49, 0, 3);
+        Readings.quarter(grid, 0, 50, 50, 49, 0, 3);
+        read.useIs(grid, 0, 50, 50, 49, 0, 3);
         grid.close(0);
-        useIs(grid, 1, 50, 50, 49, 0, 3);
+        read.useIs(grid, 1, 50, 50, 49, 0, 3);
         grid.replace(2, 1, 4);
-        useIs(grid, 1, 50, 50, 4, 0, 3);
-        useIs(grid, 0, 50, 50, 49, 0, 3);
+        read.useIs(grid, 1, 50, 50, 4, 0, 3);
+        read.useIs(grid, 0, 50, 50, 49, 0, 3);
     }
 
     // Promise 10.
@@ -456,42 +402,42 @@ public final class PromisesTest {
         grid.setShare(0, 1);
         grid.setShare(1, 1);
         grid.setShare(2, 2);
-        quarter(grid, 10, 3, 2, 10, 10, 0);
+        Readings.quarter(grid, 10, 3, 2, 10, 10, 0);
         // By contract 2.5, 2, 5; then 0.5 is left over for the needs 0.5, 0, 5, 10.
         double left = 0.5;
-        fromSunIs(grid, 0, 2.5 + left * 0.5 / 15.5, 2, 5 + left * 5.0 / 15.5, left * 10.0 / 15.5, 0);
-        quarter(grid, 20, 3, 10, 4, 0, 2);
+        read.fromSunIs(grid, 0, 2.5 + left * 0.5 / 15.5, 2, 5 + left * 5.0 / 15.5, left * 10.0 / 15.5, 0);
+        Readings.quarter(grid, 20, 3, 10, 4, 0, 2);
         // By contract 3, 5, 4; then 8 are left over for the needs 5 and 2.
-        fromSunIs(grid, 1, 3, 10, 4, 0, 2);
-        boughtIs(grid, 1, 0, 0, 0, 0, 0);
+        read.fromSunIs(grid, 1, 3, 10, 4, 0, 2);
+        read.boughtIs(grid, 1, 0, 0, 0, 0, 0);
         checks.same("one is left over", grid.battery(), 1.0);
         grid.setShare(2, 0);
         grid.setShare(4, 2);
-        quarter(grid, 8, 10, 0, 10, 0, 10);
+        Readings.quarter(grid, 8, 10, 0, 10, 0, 10);
         // By contract 2 and 4; then 2 are left over for the needs 8, 10 and 6.
-        fromSunIs(grid, 2, 2 + 2.0 * 8.0 / 24.0, 0, 2.0 * 10.0 / 24.0, 0, 4 + 2.0 * 6.0 / 24.0);
+        read.fromSunIs(grid, 2, 2 + 2.0 * 8.0 / 24.0, 0, 2.0 * 10.0 / 24.0, 0, 4 + 2.0 * 6.0 / 24.0);
     }
 
     private static void whatIsLeftIsSharedByNeed() {
         GridCommons grid = new GridCommons();
-        quarter(grid, 5, 3, 4, 0, 0, 0);
-        fromSunIs(grid, 0, 5.0 * 3.0 / 7.0, 5.0 * 4.0 / 7.0, 0, 0, 0);
-        boughtIs(grid, 0, 3.0 - 5.0 * 3.0 / 7.0, 4.0 - 5.0 * 4.0 / 7.0, 0, 0, 0);
+        Readings.quarter(grid, 5, 3, 4, 0, 0, 0);
+        read.fromSunIs(grid, 0, 5.0 * 3.0 / 7.0, 5.0 * 4.0 / 7.0, 0, 0, 0);
+        read.boughtIs(grid, 0, 3.0 - 5.0 * 3.0 / 7.0, 4.0 - 5.0 * 4.0 / 7.0, 0, 0, 0);
         checks.same("nothing is left over", grid.battery(), 0.0);
         grid.setShare(3, 4);
-        quarter(grid, 60, 50, 0, 0, 50, 0);
-        fromSunIs(grid, 1, 10, 0, 0, 50, 0);
-        quarter(grid, 0, 1, 2, 3, 4, 5);
-        fromSunIs(grid, 2, 0, 0, 0, 0, 0);
-        quarter(grid, 100, 50, 50, 50, 0, 0);
-        fromSunIs(grid, 3, 0, 50, 50, 0, 0);
+        Readings.quarter(grid, 60, 50, 0, 0, 50, 0);
+        read.fromSunIs(grid, 1, 10, 0, 0, 50, 0);
+        Readings.quarter(grid, 0, 1, 2, 3, 4, 5);
+        read.fromSunIs(grid, 2, 0, 0, 0, 0, 0);
+        Readings.quarter(grid, 100, 50, 50, 50, 0, 0);
+        read.fromSunIs(grid, 3, 0, 50, 50, 0, 0);
     }
 
     private static void whatIsLeftMayJustDo() {
-        GridCommons grid = withFullBattery();
-        quarter(grid, 7, 3, 4, 0, 0, 0);
-        fromSunIs(grid, 1, 3, 4, 0, 0, 0);
-        fromBatteryIs(grid, 1, 0, 0, 0, 0, 0);
+        GridCommons grid = Readings.withFullBattery();
+        Readings.quarter(grid, 7, 3, 4, 0, 0, 0);
+        read.fromSunIs(grid, 1, 3, 4, 0, 0, 0);
+        read.fromBatteryIs(grid, 1, 0, 0, 0, 0, 0);
         checks.same("battery", grid.battery(), 40.0);
         checks.same("sold", grid.sold(1), 0.0);
         checks.same("turn", grid.turn(), 0);
@@ -500,52 +446,52 @@ public final class PromisesTest {
     // Promise 11.
 
     private static void theBatteryGives() {
-        GridCommons grid = withFullBattery();
-        quarter(grid, 0, 10, 0, 5, 0, 0);
-        fromBatteryIs(grid, 1, 10, 0, 5, 0, 0);
-        boughtIs(grid, 1, 0, 0, 0, 0, 0);
-        quarter(grid, 0, 10, 10, 10, 10, 10);
-        fromBatteryIs(grid, 2, 5, 0, 0, 10, 10);
-        boughtIs(grid, 2, 5, 10, 10, 0, 0);
+        GridCommons grid = Readings.withFullBattery();
+        Readings.quarter(grid, 0, 10, 0, 5, 0, 0);
+        read.fromBatteryIs(grid, 1, 10, 0, 5, 0, 0);
+        read.boughtIs(grid, 1, 0, 0, 0, 0, 0);
+        Readings.quarter(grid, 0, 10, 10, 10, 10, 10);
+        read.fromBatteryIs(grid, 2, 5, 0, 0, 10, 10);
+        read.boughtIs(grid, 2, 5, 10, 10, 0, 0);
         checks.same("battery", grid.battery(), 0.0);
-        quarter(grid, 0, 10, 10, 10, 10, 10);
-        fromBatteryIs(grid, 3, 0, 0, 0, 0, 0);
-        quarter(grid, 20, 0, 0, 0, 10, 0);
-        fromBatteryIs(grid, 4, 0, 0, 0, 0, 0);
+        Readings.quarter(grid, 0, 10, 10, 10, 10, 10);
+        read.fromBatteryIs(grid, 3, 0, 0, 0, 0, 0);
+        Readings.quarter(grid, 20, 0, 0, 0, 10, 0);
+        read.fromBatteryIs(grid, 4, 0, 0, 0, 0, 0);
         checks.same("battery", grid.battery(), 10.0);
-        quarter(grid, 2, 0, 3, 3, 0, 0);
-        fromBatteryIs(grid, 5, 0, 2, 2, 0, 0);
+        Readings.quarter(grid, 2, 0, 3, 3, 0, 0);
+        read.fromBatteryIs(grid, 5, 0, 2, 2, 0, 0);
         checks.same("battery", grid.battery(), 6.0);
     }
 
     // Promise 12.
 
     private static void whatIsMissingIsBought() {
-        GridCommons grid = withFullBattery();
+        GridCommons grid = Readings.withFullBattery();
         grid.setShare(1, 4);
-        quarter(grid, 10, 30, 50, 0, 0, 0);
-        fromSunIs(grid, 1, 0, 10, 0, 0, 0);
-        fromBatteryIs(grid, 1, 30, 10, 0, 0, 0);
-        boughtIs(grid, 1, 0, 30, 0, 0, 0);
-        quarter(grid, 0, 50, 50, 7, 0, 0);
-        boughtIs(grid, 2, 0, 50, 7, 0, 0);
+        Readings.quarter(grid, 10, 30, 50, 0, 0, 0);
+        read.fromSunIs(grid, 1, 0, 10, 0, 0, 0);
+        read.fromBatteryIs(grid, 1, 30, 10, 0, 0, 0);
+        read.boughtIs(grid, 1, 0, 30, 0, 0, 0);
+        Readings.quarter(grid, 0, 50, 50, 7, 0, 0);
+        read.boughtIs(grid, 2, 0, 50, 7, 0, 0);
     }
 
     // Promise 13.
 
     private static void whatIsTooMuchIsSold() {
         GridCommons grid = new GridCommons();
-        quarter(grid, 39, 0, 0, 0, 0, 0);
+        Readings.quarter(grid, 39, 0, 0, 0, 0, 0);
         checks.same("less than the room", grid.sold(0), 0.0);
-        quarter(grid, 1, 0, 0, 0, 0, 0);
+        Readings.quarter(grid, 1, 0, 0, 0, 0, 0);
         checks.same("just the room", grid.sold(1), 0.0);
         checks.same("battery", grid.battery(), 40.0);
-        quarter(grid, 1, 0, 0, 0, 0, 0);
+        Readings.quarter(grid, 1, 0, 0, 0, 0, 0);
         checks.same("no room", grid.sold(2), 1.0);
-        quarter(grid, 100, 5, 6, 0, 0, 0);
+        Readings.quarter(grid, 100, 5, 6, 0, 0, 0);
         checks.same("what is left over", grid.sold(3), 89.0);
-        quarter(grid, 0, 10, 0, 0, 0, 0);
-        quarter(grid, 100, 0, 0, 0, 0, 20);
+        Readings.quarter(grid, 0, 10, 0, 0, 0, 0);
+        Readings.quarter(grid, 100, 0, 0, 0, 0, 20);
         checks.same("what is left over less the room", grid.sold(5), 70.0);
         checks.same("no sun", grid.sold(4), 0.0);
     }
@@ -554,48 +500,48 @@ public final class PromisesTest {
 
     private static void theBatteryHolds() {
         GridCommons grid = new GridCommons();
-        quarter(grid, 30, 0, 0, 0, 0, 5);
+        Readings.quarter(grid, 30, 0, 0, 0, 0, 5);
         checks.same("charged", grid.battery(), 25.0);
-        quarter(grid, 30, 0, 0, 0, 0, 15);
+        Readings.quarter(grid, 30, 0, 0, 0, 0, 15);
         checks.same("just full", grid.battery(), 40.0);
-        quarter(grid, 30, 0, 0, 0, 0, 0);
+        Readings.quarter(grid, 30, 0, 0, 0, 0, 0);
         checks.same("not more", grid.battery(), 40.0);
-        quarter(grid, 0, 0, 0, 0, 0, 7);
+        Readings.quarter(grid, 0, 0, 0, 0, 0, 7);
         checks.same("given", grid.battery(), 33.0);
-        quarter(grid, 0, 0, 50, 0, 0, 0);
+        Readings.quarter(grid, 0, 0, 50, 0, 0, 0);
         checks.same("empty", grid.battery(), 0.0);
     }
 
     // Promise 15.
 
     private static void theTurnGoesOn() {
-        GridCommons grid = withFullBattery();
+        GridCommons grid = Readings.withFullBattery();
         checks.same("at first", grid.turn(), 0);
-        quarter(grid, 0, 1, 0, 1, 0, 0);
+        Readings.quarter(grid, 0, 1, 0, 1, 0, 0);
         checks.same("behind 2", grid.turn(), 3);
-        quarter(grid, 0, 0, 0, 1, 0, 0);
+        Readings.quarter(grid, 0, 0, 0, 1, 0, 0);
         checks.same("behind 2, in a round from 3", grid.turn(), 3);
-        quarter(grid, 0, 0, 1, 0, 1, 1);
+        Readings.quarter(grid, 0, 0, 1, 0, 1, 1);
         checks.same("behind 1, in a round from 3", grid.turn(), 2);
-        quarter(grid, 0, 0, 0, 0, 0, 1);
+        Readings.quarter(grid, 0, 0, 0, 0, 0, 1);
         checks.same("behind 4", grid.turn(), 0);
-        quarter(grid, 0, 1, 1, 1, 1, 1);
+        Readings.quarter(grid, 0, 1, 1, 1, 1, 1);
         checks.same("behind all", grid.turn(), 0);
-        quarter(grid, 0, 27, 1, 1, 0, 0);
+        Readings.quarter(grid, 0, 27, 1, 1, 0, 0);
         checks.same("behind those who get", grid.turn(), 2);
         checks.same("the last one", grid.fromBattery(1, 6), 1.0);
     }
 
     private static void theTurnStaysIfNobodyGets() {
-        GridCommons grid = withFullBattery();
-        quarter(grid, 0, 1, 0, 0, 0, 0);
-        quarter(grid, 0, 0, 0, 0, 0, 0);
+        GridCommons grid = Readings.withFullBattery();
+        Readings.quarter(grid, 0, 1, 0, 0, 0, 0);
+        Readings.quarter(grid, 0, 0, 0, 0, 0, 0);
         checks.same("nobody needs", grid.turn(), 1);
-        quarter(grid, 10, 0, 0, 5, 0, 0);
+        Readings.quarter(grid, 10, 0, 0, 5, 0, 0);
         checks.same("the sun is enough", grid.turn(), 1);
-        quarter(grid, 0, 0, 40, 0, 0, 0);
+        Readings.quarter(grid, 0, 0, 40, 0, 0, 0);
         checks.same("empty, behind 1", grid.turn(), 2);
-        quarter(grid, 0, 1, 1, 1, 1, 1);
+        Readings.quarter(grid, 0, 1, 1, 1, 1, 1);
         checks.same("nothing to give", grid.turn(), 2);
     }
 
@@ -603,12 +549,12 @@ public final class PromisesTest {
 
     private static void shedsCounts() {
         GridCommons grid = new GridCommons();
-        quarter(grid, 0, 50, 50, 50, 0, 50);
-        shedsIs(grid, 1, 1, 0, 0, 0);
-        quarter(grid, 100, 50, 50, 50, 0, 50);
-        shedsIs(grid, 1, 1, 1, 0, 1);
-        quarter(grid, 0, 50, 50, 0, 0, 0);
-        shedsIs(grid, 1, 1, 1, 0, 1);
+        Readings.quarter(grid, 0, 50, 50, 50, 0, 50);
+        read.shedsIs(grid, 1, 1, 0, 0, 0);
+        Readings.quarter(grid, 100, 50, 50, 50, 0, 50);
+        read.shedsIs(grid, 1, 1, 1, 0, 1);
+        Readings.quarter(grid, 0, 50, 50, 0, 0, 0);
+        read.shedsIs(grid, 1, 1, 1, 0, 1);
         for (int owner : WRONG_OWNERS) {
             checks.fails("sheds(" + owner + ")", ARGUMENT, () -> grid.sheds(owner));
         }
@@ -619,15 +565,15 @@ public final class PromisesTest {
     private static void billAddsUp() {
         GridCommons grid = new GridCommons();
         grid.setPrice(4);
-        quarter(grid, 100, 0, 0, 0, 0, 0);
-        billIs(grid, -6, -6, -6, -6, -6);
+        Readings.quarter(grid, 100, 0, 0, 0, 0, 0);
+        read.billIs(grid, -6, -6, -6, -6, -6);
         grid.setPrice(1);
-        quarter(grid, 0, 48, 0, 0, 4, 0);
-        billIs(grid, -4, -6, -6, -5, -6);
+        Readings.quarter(grid, 0, 48, 0, 0, 4, 0);
+        read.billIs(grid, -4, -6, -6, -5, -6);
         grid.setPrice(3);
-        quarter(grid, 70, 0, 10, 0, 0, 0);
+        Readings.quarter(grid, 70, 0, 10, 0, 0, 0);
         double income = 20.0 * 0.75 / 10.0;
-        billIs(grid, -4 - income, -6 - income, -6 - income, -5 - income, -6 - income);
+        read.billIs(grid, -4 - income, -6 - income, -6 - income, -5 - income, -6 - income);
         for (int owner : WRONG_OWNERS) {
             checks.fails("bill(" + owner + ")", ARGUMENT, () -> grid.bill(owner));
         }

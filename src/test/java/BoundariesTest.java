@@ -35,12 +35,15 @@ public final class BoundariesTest {
         checks.run("a use from 0, or there is a gap", BoundariesTest::aUseOf0IsNoGap);
         checks.run("the quarter that is next", BoundariesTest::aUseIsToldForOneQuarter);
         checks.run("told again, it replaces what was told", BoundariesTest::theLastThatIsToldCounts);
+        checks.run("the quarter that is next, behind the 60th", BoundariesTest::whatIsToldBehindTheLastChangesNoQuarter);
         checks.run("0.0 if none is known", BoundariesTest::aGuessOfNoneIs0);
         checks.run("if just one is known, that", BoundariesTest::aGuessOfOneIsThatOne);
         checks.run("half of the sum of the last two", BoundariesTest::aGuessOfTwoIsHalfOfTheirSum);
         checks.run("the last two, if more are known", BoundariesTest::aGuessOfThreeLooksAtTwo);
         checks.run("those of the latest quarters", BoundariesTest::theLatestQuartersAreLastNotTheLatestTold);
         checks.run("known by then, told or replaced", BoundariesTest::aGuessIsNeverKnown);
+        checks.run("known by then, shed or not", BoundariesTest::aShedUseThatWasToldIsKnown);
+        checks.run("known by then, a shed gap", BoundariesTest::aShedGapIsKnownOnceItIsReplaced);
         checks.run("the uses of this owner", BoundariesTest::othersDoNotCountInAGuess);
         checks.run("the guess stays until the gap is replaced", BoundariesTest::theGuessStays);
     }
@@ -276,6 +279,31 @@ public final class BoundariesTest {
         read.useIs(grid, 1, 0, 0, 50, 0, 0);
     }
 
+    /** Promise 5 has no exception for it, so tell answers as ever; only close is refused, and nothing else changes. */
+    private static void whatIsToldBehindTheLastChangesNoQuarter() {
+        GridCommons grid = sixtyQuarters();
+        for (int owner = 0; owner < 5; owner++) {
+            checks.holds("not told", !grid.tell(owner, 50));
+            checks.holds("told", grid.tell(owner, owner));
+        }
+        checks.fails("60 are closed", STATE, () -> grid.close(0));
+        for (int owner = 0; owner < 5; owner++) {
+            checks.holds("still told", grid.tell(owner, 9));
+        }
+        checks.fails("it never comes", INDEX, () -> grid.use(0, 60));
+        checks.fails("and is no gap", INDEX, () -> grid.replace(0, 60, 9));
+        read.sameAnswers("what is told", Readings.answers(grid), Readings.answers(sixtyQuarters()));
+    }
+
+    private static GridCommons sixtyQuarters() {
+        GridCommons grid = new GridCommons();
+        Readings.quarter(grid, 20, 1, 2, 3, 4, 5);
+        for (int quarter = 1; quarter < 60; quarter++) {
+            grid.close(quarter % 20);
+        }
+        return grid;
+    }
+
     // "A gap is filled with a guess when the quarter is closed: half of the sum of the last two uses ..."
 
     private static void aGuessOfNoneIs0() {
@@ -351,6 +379,56 @@ public final class BoundariesTest {
         checks.same("10, 40 in place of the gap, 30", grid.use(0, 4), 35.0);
         checks.same("10, a gap, 0", grid.use(1, 4), 5.0);
     }
+
+    // "known by then, told or replaced", "as it is known now, whether shed or not": being shed makes no use unknown.
+
+    private static void aShedUseThatWasToldIsKnown() {
+        GridCommons grid = new GridCommons();
+        Readings.quarter(grid, 0, 30, 50, 50, 0, 0);
+        read.shedsIs(grid, 1, 0, 0, 0, 0);
+        checks.same("shed", grid.bought(0, 0), 0.0);
+        checks.same("the use that was told", grid.use(0, 0), 30.0);
+        tellNothingBut0(grid);
+        checks.same("just one is known, and that was shed", grid.use(0, 1), 30.0);
+        checks.same("it was not shed again", grid.bought(0, 1), 30.0);
+        Readings.quarter(grid, 0, 11, 0, 0, 0, 0);
+        tellNothingBut0(grid);
+        checks.same("30, which was shed, and 11", grid.use(0, 3), 20.5);
+        for (int other = 1; other < 5; other++) {
+            grid.setSwitch(other, false);
+        }
+        Readings.quarter(grid, 0, 4, 50, 50, 0, 0);
+        read.shedsIs(grid, 2, 0, 0, 0, 0);
+        tellNothingBut0(grid);
+        checks.same("11 and 4, which was shed", grid.use(0, 5), 7.5);
+    }
+
+    private static void aShedGapIsKnownOnceItIsReplaced() {
+        GridCommons grid = new GridCommons();
+        Readings.quarter(grid, 0, 8, 0, 0, 0, 0);
+        tellThree(grid, 2, 0, 0);
+        grid.close(0);
+        grid.tell(1, 50);
+        grid.tell(2, 50);
+        grid.close(0);
+        read.shedsIs(grid, 1, 0, 0, 0, 0);
+        checks.same("the guess that was shed", grid.use(0, 2), 5.0);
+        tellNothingBut0(grid);
+        checks.same("it is not known, neither as 5.0 nor as 0.0", grid.use(0, 3), 5.0);
+        checks.same("the whole use", grid.replace(0, 2, 20), 10.0);
+        tellNothingBut0(grid);
+        checks.same("2, and 20 in place of the shed gap", grid.use(0, 4), 11.0);
+    }
+
+    /** The next quarter is closed with a gap of owner 0 alone; the others use nothing. */
+    private static void tellNothingBut0(GridCommons grid) {
+        for (int other = 1; other < 5; other++) {
+            grid.tell(other, 0);
+        }
+        grid.close(0);
+    }
+
+    // "the uses of this owner"
 
     private static void othersDoNotCountInAGuess() {
         for (int owner = 0; owner < 5; owner++) {

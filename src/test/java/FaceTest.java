@@ -66,6 +66,11 @@ public final class FaceTest {
             checks.holds(field + " is private", Modifier.isPrivate(modifiers));
             checks.holds(field + " is final if static", !Modifier.isStatic(modifiers) || Modifier.isFinal(modifiers));
         }
+        for (Class<?> inside : GridCommons.class.getDeclaredClasses()) {
+            int modifiers = inside.getModifiers();
+            checks.holds(inside + " is not seen", !Modifier.isPublic(modifiers) && !Modifier.isProtected(modifiers));
+            checks.holds(inside + " is static", Modifier.isStatic(modifiers));
+        }
     }
 
     private static boolean isNameOfTheFace(String name) {

@@ -29,6 +29,7 @@ public final class RefusalsTest {
         checks.run("3: owner 0 to 4", RefusalsTest::setSwitchTakesItsRange);
         checks.run("4: fourths 1 to 4", RefusalsTest::setPriceTakesItsRange);
         checks.run("5: owner 0 to 4, use 0 to 50", RefusalsTest::tellTakesItsRanges);
+        checks.run("5: the same when 60 are closed", RefusalsTest::tellTakesItsRangesWhenSixtyAreClosed);
         checks.run("6: sun 0 to 100", RefusalsTest::closeTakesItsRange);
         checks.run("6: at most 60 are closed", RefusalsTest::closeTakesSixtyQuarters);
         checks.run("8: owner 0 to 4, use 0 to 50", RefusalsTest::replaceTakesItsRanges);
@@ -141,6 +142,15 @@ public final class RefusalsTest {
         takes("tell, use", GridCommons::new, 0, 50, (grid, use) -> grid.tell(0, use));
         takes("tell, use of the last", GridCommons::new, 0, 50, (grid, use) -> grid.tell(4, use));
         takes("tell again, use", RefusalsTest::aToldOne, 0, 50, (grid, use) -> grid.tell(0, use));
+    }
+
+    // Promise 5 names no exception for the state; the one for 60 closed quarters is that of promise 6.
+
+    private static void tellTakesItsRangesWhenSixtyAreClosed() {
+        Supplier<GridCommons> sixty = RefusalsTest::withSixtyQuarters;
+        takes("tell behind the 60th, owner", sixty, 0, 4, (grid, owner) -> grid.tell(owner, 50));
+        takes("tell behind the 60th, use", sixty, 0, 50, (grid, use) -> grid.tell(0, use));
+        takes("tell behind the 60th, use of the last", sixty, 0, 50, (grid, use) -> grid.tell(4, use));
     }
 
     private static GridCommons aToldOne() {

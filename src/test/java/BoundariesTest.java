@@ -35,7 +35,7 @@ public final class BoundariesTest {
         checks.run("a use from 0, or there is a gap", BoundariesTest::aUseOf0IsNoGap);
         checks.run("the quarter that is next", BoundariesTest::aUseIsToldForOneQuarter);
         checks.run("told again, it replaces what was told", BoundariesTest::theLastThatIsToldCounts);
-        checks.run("the quarter that is next, behind the 60th", BoundariesTest::whatIsToldBehindTheLastChangesNoQuarter);
+        checks.run("told behind the 60th", BoundariesTest::whatIsToldBehindTheLastChangesNoQuarter);
         checks.run("0.0 if none is known", BoundariesTest::aGuessOfNoneIs0);
         checks.run("if just one is known, that", BoundariesTest::aGuessOfOneIsThatOne);
         checks.run("half of the sum of the last two", BoundariesTest::aGuessOfTwoIsHalfOfTheirSum);

@@ -23,7 +23,7 @@ public final class ReadmeTest {
         checks.end();
     }
 
-    // The lines up to the empty one are those of README.md, word for word; theExampleIsTheOneThatIsTested compares them.
+    // The lines up to the empty one are those of README.md; theExampleIsTheOneThatIsTested compares them.
     private static void theExampleAnswersWhatItSays() {
         GridCommons grid = new GridCommons();
         grid.setShare(0, 2);                    // owner 0 has two fourths of the sun
